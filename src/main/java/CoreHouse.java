@@ -1820,7 +1820,7 @@ public final class CoreHouse {
                 case 2:
                     return x < y ? 1 : 0;
                 case 3:
-                    return Integer.compareUnsigned(x, y) < 0 ? 1 : 0;
+                    return isBelow(x, y) ? 1 : 0;
                 case 4:
                     return x ^ y;
                 case 5:
@@ -1830,6 +1830,11 @@ public final class CoreHouse {
                 default:
                     return x & y;
             }
+        }
+
+        /** Less without a sign: with the highest bit turned over the order is that of ints. */
+        private static boolean isBelow(int x, int y) {
+            return (x ^ 0x80000000) < (y ^ 0x80000000);
         }
 
         static boolean branches(int word, int a, int b) {
@@ -1843,9 +1848,9 @@ public final class CoreHouse {
                 case 5:
                     return a >= b;
                 case 6:
-                    return Integer.compareUnsigned(a, b) < 0;
+                    return isBelow(a, b);
                 default:
-                    return Integer.compareUnsigned(a, b) >= 0;
+                    return !isBelow(a, b);
             }
         }
 
@@ -1865,7 +1870,6 @@ public final class CoreHouse {
         }
 
         static int atomic(int word, int old, int b) {
-            boolean below = Integer.compareUnsigned(old, b) < 0;
             switch (word >>> 27) {
                 case 0:
                     return old + b;
@@ -1882,9 +1886,9 @@ public final class CoreHouse {
                 case 20:
                     return Math.max(old, b);
                 case 24:
-                    return below ? old : b;
+                    return isBelow(old, b) ? old : b;
                 default:
-                    return below ? b : old;
+                    return isBelow(old, b) ? b : old;
             }
         }
     }
