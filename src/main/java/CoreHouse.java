@@ -434,53 +434,56 @@ public final class CoreHouse {
                 at++;
             }
             start = at;
+            value = 0;
             if (at >= length) {
                 kind = END;
-                return;
-            }
-            while (at < length && isLetterOrDigit(marks[at])) {
-                at++;
-            }
-            if (at == start) {
+            } else if (isLetter(marks[at])) {
+                scanName();
+            } else if (isDigit(marks[at])) {
+                scanNumber();
+            } else {
                 kind = isSign(marks[at]) ? marks[at] : BAD;
                 at++;
-            } else if (marks[start] > '9') {
-                scanName();
-            } else {
-                scanNumber();
             }
         }
 
-        private static boolean isLetterOrDigit(char mark) {
-            return mark >= 'a' && mark <= 'z' || mark >= '0' && mark <= '9';
+        private static boolean isLetter(char mark) {
+            return mark >= 'a' && mark <= 'z';
+        }
+
+        private static boolean isDigit(char mark) {
+            return mark >= '0' && mark <= '9';
         }
 
         private static boolean isSign(char mark) {
             return mark == ':' || mark == ';' || mark == ',' || mark == '(' || mark == ')' || mark == '-';
         }
 
+        // The two below call nothing: calls go at most eight deep, and these are the eighth.
+
         private void scanName() {
-            kind = at - start <= 8 ? NAME : BAD;
-            value = 0;
-            for (int i = start; i < at; i++) {
-                value = value << 8 | marks[i];
+            while (at < length && (marks[at] >= 'a' && marks[at] <= 'z' || marks[at] >= '0' && marks[at] <= '9')) {
+                value = value << 8 | marks[at];
+                at++;
             }
+            kind = at - start <= 8 ? NAME : BAD;
         }
 
+        /** A number ends where its digits do: a name may stand right behind it. */
         private void scanNumber() {
-            boolean hex = at - start >= 2 && marks[start] == '0' && marks[start + 1] == 'x';
-            int first = hex ? start + 2 : start;
+            boolean hex = marks[at] == '0' && at + 1 < length && marks[at + 1] == 'x';
             int base = hex ? 16 : 10;
+            int first = hex ? at + 2 : at;
+            for (at = first; at < length; at++) {
+                boolean decimal = marks[at] >= '0' && marks[at] <= '9';
+                boolean letter = hex && marks[at] >= 'a' && marks[at] <= 'f';
+                if (!decimal && !letter) {
+                    break;
+                }
+                value = value * base + (decimal ? marks[at] - '0' : marks[at] - 'a' + 10);
+            }
             int digits = at - first;
             kind = digits >= 1 && digits <= (hex ? 8 : 10) ? NUMBER : BAD;
-            value = 0;
-            for (int i = first; i < at; i++) {
-                int digit = marks[i] <= '9' ? marks[i] - '0' : marks[i] - 'a' + 10;
-                if (digit >= base) {
-                    kind = BAD;
-                }
-                value = value * base + digit;
-            }
         }
 
         /** The first place where no schedule has what is there; NONE if all is well. */

@@ -8,6 +8,7 @@ public final class AssemblerTest {
         addresses();
         cores();
         charactersThatCannotStand();
+        tokensWithoutBlanks();
         labelFaults();
         numberFaults();
         whichFaultIsTold();
@@ -121,7 +122,6 @@ public final class AssemblerTest {
         Check.fault("nop;foo x1;", 1, 4);
         Check.fault("foo #;", 1, 4);
         Check.fault("foo abcdefghi;", 1, 4);
-        Check.fault("foo 12a;", 1, 4);
         Check.fault("foo 12;", 1, 0);
         Check.fault("nop #;", 1, 4);
         Check.fault("#;", 1, 0);
@@ -172,6 +172,37 @@ public final class AssemblerTest {
         Check.fault("ret x1;", 1, 4);
         Check.fault("j;", 1, 1);
         Check.fault("amoadd.w x1,x2,(x3);", 1, 6);
+    }
+
+    /** A blank need not part a NUMBER from the NAME behind it. */
+    private static void tokensWithoutBlanks() {
+        Check.fault("li x1,12a;", 1, 8);
+        Check.fault("li x1,12 a;", 1, 9);
+        Check.fault("li x1,-12a;", 1, 9);
+        Check.fault("li x1,12a", 1, 8);
+        Check.fault("li x1,12abcdefghi;", 1, 8);
+        Check.fault("li x1,1234567890a;", 1, 16);
+        Check.fault("li x1,12345678901a;", 1, 6);
+        Check.fault("word 12x;", 1, 7);
+        Check.fault("word 00x1;", 1, 7);
+        Check.fault("word 0a;", 1, 6);
+        Check.fault("word 0x12g;", 1, 9);
+        Check.fault("word 0xabcdefg;", 1, 13);
+        Check.fault("word 0x12345678g;", 1, 15);
+        Check.fault("word 0x123456789g;", 1, 5);
+        Check.fault("word 0x1x2;", 1, 8);
+        Check.fault("lw x1,4x2;", 1, 7);
+        Check.fault("org 4nop;", 1, 5);
+        Check.fault("core 1a;", 1, 6);
+        Check.fault("12a;", 1, 0);
+        Check.fault("a:12b:nop;", 1, 2);
+        Check.fault("nop 12a;", 1, 4);
+        Check.fault("foo 12a;", 1, 0);
+        Check.fault("foo 12345678901;", 1, 4);
+        Check.fault("foo 0x;", 1, 4);
+        Check.fault("word 12#;", 1, 7);
+        Check.fault("add x1x2,x3;", 1, 4);
+        encodes("word-1;addi x1,x0,-  1;", -1, 0xfff00093);
     }
 
     private static void labelFaults() {
