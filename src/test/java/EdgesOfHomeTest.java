@@ -38,6 +38,7 @@ public final class EdgesOfHomeTest {
         wordOnAllItsWay();
         fourWordsOfALine();
         wordsOfTwoLines();
+        wordBehindAnOldAck();
         wordBesideAnOldPut();
         wrongCalls();
         Check.end();
@@ -739,6 +740,46 @@ public final class EdgesOfHomeTest {
         }
         Check.same("line 32", house.copy(2, 512), 9);
         Check.same("line 33", house.copy(3, 528), 8);
+    }
+
+    /** An ACK that was delivered long ago tells nothing, wherever it was in the pool: newer words are in GIVE. */
+    private static void wordBehindAnOldAck() {
+        CoreHouse house = Check.house("li x1,9;sw x1,16(x0);sw x1,20(x0);nop;org 32;core 1;li x1,5;sw x1,16(x0);nop;"
+            + "org 64;core 2;nop;org 96;core 3;nop;org 128;core 4;nop;", 5, 2, 1, 2, 2, 8);
+        Check.retire(house, 0, 3);
+        house.drain(0);
+        Check.deliverAll(house);
+        Check.same("drain", house.drain(0), 1);
+        Check.retire(house, 1, 2);
+        // Two requests stay in the pool, so that all else is behind them.
+        house.step(3);
+        house.step(4);
+        house.step(2);
+        Check.yes("GETS of core 2", house.deliver(2));
+        Check.same("drain", house.drain(1), 2);
+        Check.yes("GETM of core 1", house.deliver(3));
+        Check.yes("GIVE for core 2", house.deliver(2));
+        Check.yes("INV", house.deliver(2));
+        message(house, 2, DONE, 2, 4);
+        message(house, 3, ACK, 0, 1);
+        Check.yes("DONE", house.deliver(2));
+        Check.same("in ACK alone", house.word(16), 9);
+        Check.yes("ACK", house.deliver(2));
+        Check.yes("GIVE", house.deliver(2));
+        Check.yes("DONE", house.deliver(2));
+        Check.same("drain", house.drain(1), 1);
+        Check.same("word", house.word(16), 5);
+        Check.same("core 0 takes it back", house.drain(0), 2);
+        int[] kinds = {GETM, INV, ACK, GIVE_M, DONE};
+        for (int kind : kinds) {
+            Check.same("kind", house.message(2, 0), kind);
+            Check.same("three messages", house.total(1), 3);
+            Check.same("the new word", house.word(16), 5);
+            Check.yes("deliver", house.deliver(2));
+        }
+        Check.same("drain", house.drain(0), 1);
+        Check.same("the new word", house.word(16), 5);
+        Check.same("the other", house.word(20), 9);
     }
 
     /** A PUT with old words is still on its way while newer ones are in an ACK. */
