@@ -29,6 +29,7 @@ public final class EdgesOfCacheTest {
         changedFromAlone();
         downAndInv();
         shelfThatHasGone();
+        missOfWhatHasGone();
         shelfAgain();
         shelfOfAnotherLine();
         Check.end();
@@ -591,6 +592,49 @@ public final class EdgesOfCacheTest {
         Check.same("word", house.word(20), 0);
         Check.same("shelf", house.core(0, 37), CoreHouse.NONE);
         Check.same("PUT came too late for its words", house.home(1, 0), 2);
+    }
+
+    /** A line that has gone from the shelf is not asked for till BACK: its PUT would come behind a later loan. */
+    private static void missOfWhatHasGone() {
+        // Core 0 has line 2 as S, so nothing but its shelf keeps it from asking for line 1.
+        CoreHouse house = Check.house("li x1,9;sw x1,16(x0);lw x2,32(x0);sw x0,20(x0);"
+            + "org 64;core 1;lw x1,32(x0);lw x1,16(x0);nop;", 2, 4, 1, 2, 1, 8);
+        Check.retire(house, 1, 1);
+        Check.retire(house, 0, 2);
+        house.drain(0);
+        Check.deliverAll(house);
+        Check.same("drain", house.drain(0), 1);
+        Check.same("load", house.step(0), 3);
+        message(house, 0, PUT, 1);
+        for (int i = 0; i < 5; i++) {
+            Check.yes("GETS, DOWN, ACK, GIVE, DONE", house.deliver(1));
+        }
+        Check.same("line 2 is shared", house.cached(0, 2), 1);
+        Check.same("load", house.step(0), 1);
+        Check.same("store", house.step(0), 1);
+        Check.same("load of core 1", house.step(1), 3);
+        message(house, 1, GETS, 1);
+        Check.yes("GETS", house.deliver(1));
+        Check.yes("DOWN", house.deliver(1));
+        Check.same("ACK with words", house.message(1, 4), 1);
+        State.stays("a miss of what has gone", house, () -> house.drain(0));
+        Check.yes("ACK", house.deliver(1));
+        Check.yes("GIVE S", house.deliver(1));
+        Check.yes("DONE", house.deliver(1));
+        State.stays("a miss of what another has", house, () -> house.drain(0));
+        Check.yes("PUT", house.deliver(0));
+        State.stays("a miss ahead of BACK", house, () -> house.drain(0));
+        Check.same("it waits", house.drain(0), 2);
+        Check.same("no request", house.core(0, 36), CoreHouse.NONE);
+        Check.same("shelf", house.core(0, 37), 1);
+        Check.yes("BACK", house.deliver(0));
+        Check.same("now it asks", house.drain(0), 2);
+        Check.same("request", house.core(0, 36), 1);
+        message(house, 0, GETM, 1);
+        Check.same("line 2 has gone", house.cached(0, 2), 0);
+        Check.deliverAll(house);
+        Check.same("drain", house.drain(0), 1);
+        Check.same("word", house.word(16), 9);
     }
 
     /** A shelf that was emptied by DOWN, then by BACK, has the next line with its words. */
